@@ -383,7 +383,11 @@ public final class AlwaysAhead {
 
     public int judge(int s) {
         int against = againstRows(s, s);
-        return against != 0 ? refuse(against) : firstWrong(shelves[s]);
+        if (against != 0) {
+            return refuse(against);
+        }
+        cells.layFitting(now);
+        return firstWrong(shelves[s]);
     }
 
     public int told(int s, int what) {
@@ -538,10 +542,11 @@ public final class AlwaysAhead {
 
     private int againstTold(int s) {
         int against = againstRows(s, s);
-        if (against == 0 && (shelves[s].size != now.slips || firstWrong(shelves[s]) != NONE)) {
-            return STUCK;
+        if (against != 0) {
+            return against;
         }
-        return against;
+        cells.layFitting(now);
+        return shelves[s].size != now.slips || firstWrong(shelves[s]) != NONE ? STUCK : 0;
     }
 
     private int againstBooks(int p, int q) {
@@ -617,8 +622,8 @@ public final class AlwaysAhead {
         cells.tallyMarks();
     }
 
+    /** Where a told ROW can't be, by the cells of ROWS that FIT: the caller has laid them. */
     private int firstWrong(Shelf told) {
-        cells.layFitting(now);
         int a = 0;
         for (int i = 0; i < told.size; i++) {
             int slip = told.slipAt(i);
@@ -1205,8 +1210,8 @@ public final class AlwaysAhead {
         }
 
         private static int bits(int from, int to) {
-            int least = Math.max(0, from);
-            int most = Math.min(MOST_SLIPS, to);
+            int least = from < 0 ? 0 : from;
+            int most = to > MOST_SLIPS ? MOST_SLIPS : to;
             return least > most ? 0 : (1 << most + 1) - (1 << least);
         }
     }

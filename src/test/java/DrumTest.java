@@ -91,7 +91,10 @@ public final class DrumTest {
         Due.is("12: swap(0, 2)", x.swap(0, 2), 1);
         Due.is("12: swap(1, 1)", x.swap(1, 1), 0);
         Due.is("12: swap(0, 3)", x.swap(0, 3), -2);
+        Due.is("12: swap(3, 0)", x.swap(3, 0), -2);
         Due.is("12: swap(-1, 0)", x.swap(-1, 0), -2);
+        Due.is("12: swap(0, -1)", x.swap(0, -1), -2);
+        Due.is("12: swap(2, 0) and back", x.swap(2, 0) + x.swap(0, 2), 2);
         Due.is("16: HEAP 0", x.heapOf(0, 2), 2);
         Due.is("16: HEAP 1", x.heapOf(1, 2), 1);
         Due.is("16: HEAP 2", x.heapOf(2, 2), 0);

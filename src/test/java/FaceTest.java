@@ -52,6 +52,9 @@ public final class FaceTest {
         for (Class<?> inside : face.getDeclaredClasses()) {
             Due.isTrue(inside + " is static and not public", Modifier.isStatic(inside.getModifiers())
                     && !Modifier.isPublic(inside.getModifiers()));
+            for (Method method : inside.getDeclaredMethods()) {
+                Due.isTrue(method + " bears no public name", !names.contains(method.getName()));
+            }
         }
         Due.isTrue("the class", Modifier.isFinal(face.getModifiers()) && Modifier.isPublic(face.getModifiers()));
         Due.is("NONE", AlwaysAhead.NONE, -1);

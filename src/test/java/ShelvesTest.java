@@ -194,6 +194,15 @@ public final class ShelvesTest {
         AlwaysAhead b = new AlwaysAhead();
         b.heap(0, 1);
         Due.is("8: SURELY, B alone", saying(b, 5, 0), 0);
+        Due.is("8: TWOS, at the end too", saying(b, 3, 0), 0);
+        AlwaysAhead c = new AlwaysAhead();
+        c.heap(4, 3);
+        // by 1, sure at the fourth A: AAAABBB, AAABABB, AABAABB, AAABBAB, AABABAB are ahead until then
+        Due.is("8: SURELY 4 to 3", saying(c, 5, 1), 5);
+        Due.is("8: HEAPED 4 to 3", saying(c, 2, 1), 5);
+        // by 3, only AAAABBB is ahead until the fourth A
+        Due.is("8: SURELY 4 to 3 by 3", saying(c, 5, 3), 1);
+        Due.is("8: HEAPED 4 to 3 by 3", saying(c, 2, 3), 0);
     }
 
     private static void drawingsOfNothing() {
@@ -217,5 +226,7 @@ public final class ShelvesTest {
         Due.is("37: of several the first", x.head(), 2);
         x.drawing(4, 6, 2);
         Due.is("37: head()", x.head(), 4);
+        x.drawing(0, 6, 1);
+        Due.is("37: head()", x.head(), 0);
     }
 }

@@ -71,6 +71,13 @@ public final class TapeTest {
         answers("heap -1 1", -25);
         answers("hea 1 1", -20);
         answers("heaps 1 1", -20);
+        answers("heapz 1 1", -20);
+        answers("aheap 1 1", -20);
+        answers("reap 1 1", -20);
+        answers("heap{1 1", -24);
+        answers("heap`1 1", -24);
+        answers("heap 1/1", -26);
+        answers("heap 1:1", -26);
         answers(" Heap 1 1", -21);
         answers("heapA", -24);
         answers("1 1", -20);

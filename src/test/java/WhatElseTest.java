@@ -145,6 +145,10 @@ public final class WhatElseTest {
         ordered(x, true, 2, 0, 3, 1);
         Due.is("41: place 4", x.order(true, 4), -2);
         Due.is("41: place -1", x.order(false, -1), -2);
+        AlwaysAhead w = new AlwaysAhead();
+        Due.drum(w, "heap 0 1;heap 2 0");
+        ordered(w, true, 1, 0);
+        ordered(w, false, 0, 1);
         AlwaysAhead z = new AlwaysAhead();
         Due.drum(z, "heap 3 0;heap 0 2;heap 0 1");
         ordered(z, true, 0, 1, 2);
