@@ -48,13 +48,22 @@ final class Edge {
         AlwaysAhead twin = new AlwaysAhead();
         made.make(x);
         made.make(twin);
-        Due.is(what, call.on(x), due);
+        Due.is(what, answer(what, call, x), due);
         others.make(twin);
         for (int number = BAD; number >= FULL; number--) {
             int counted = x.status(10 - number) - twin.status(10 - number);
             Due.is(what + ": refusals " + number, counted, number == refusal ? 1 : 0);
         }
         Due.isTrue(what + ": what has changed", state(x).equals(state(twin)));
+    }
+
+    private static long answer(String what, Call call, AlwaysAhead x) {
+        try {
+            return call.on(x);
+        } catch (RuntimeException thrown) {
+            System.out.println(what + " threw " + thrown);
+            return Long.MIN_VALUE;
+        }
     }
 
     /** All that can be seen of an object; what THE TAPE holds and what is kept are seen last, by use. */

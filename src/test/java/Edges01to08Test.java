@@ -418,7 +418,8 @@ public final class Edges01to08Test {
         Due.is("8: TWOS, n 3, at the end", said(drum(2, 0, 0, 1), 3, 1, 3), 1);
         // BAAA: at 2 level, at 4 ahead; ABAA: the same; AABA, AAAB: ahead at both
         Due.is("8: TWOS, not after the first slip", said(drum(3, 1), 3, 1, 3), 2);
-        Due.is("8: TWOS, not after the third", said(drum(2, 0, 0, 2, 2, 0), 3, 0, 3), 1);
+        // AABA: 2 to 0, 2 to 1, 3 to 1; AAAB: 3 to 0, 3 to 1
+        Due.is("8: TWOS, not after the third slip", said(drum(3, 1), 3, 2, 3), 2);
         Due.is("8: BACK, AAB reads BAA", said(drum(2, 0, 0, 1), 4, 0, 4), 0);
         Due.is("8: BACK, BAA reads AAB", said(drum(0, 1, 2, 0), 4, 1, 4), 1);
         Due.is("8: BACK, just 2 times b", said(drum(0, 1, 2, 0), 4, 2, 4), 0);

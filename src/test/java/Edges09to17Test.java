@@ -248,7 +248,7 @@ public final class Edges09to17Test {
         Edge.Made fed = x -> {
             x.fact(0, 1, 2);
             Due.feed(x, "fact 1 2 3");
-            while (x.status(7) < 250) {
+            for (int i = 10; i < 250; i++) {
                 x.feed(32);
             }
         };

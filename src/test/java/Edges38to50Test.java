@@ -90,6 +90,8 @@ public final class Edges38to50Test {
         judged("by ORDER", swapped, "ab", 0);
         judged("no slip at first", drum(2, 2), "?a", 0);
         judged("no slip at the end", drum(2, 2), "abb?", 3);
+        judged("no slip, neither A nor B", drum(2, 2), "aa?", 2);
+        judged("no slip, neither A nor B", drum(2, 2), "bb?", 2);
         judged("the first of several", drum(1, 1), "aa?a", 1);
         judged("not as READ", read(drum(2, 2), "ab"), "b", 0);
         judged("not as READ", read(drum(2, 2), "ab"), "aa", 1);
@@ -441,6 +443,7 @@ public final class Edges38to50Test {
         drawn("A alone", drum(1, 0), -1, 1);
         drawn("B alone", drum(0, 1), 0, 0);
         drawn("of the HEAP drawn then alone", drum(1, 1, 9, 0), 1 << 16, 0);
+        drawn("of the HEAP drawn then alone", drum(1, 1, 9, 0), 2 << 16, 1);
         drawn("of the next HEAP", read(drum(1, 1, 1, 2), "ab"), 4 << 16, 0);
         drawn("of those left", read(drum(2, 1), "a"), 1 << 16, 0);
         drawn("of those left", read(drum(2, 1), "a"), 2 << 16, 1);
@@ -529,7 +532,7 @@ public final class Edges38to50Test {
             x.read(true);
         }, AlwaysAhead::back, -5);
         AlwaysAhead x = new AlwaysAhead();
-        Edge.busy(x);
+        Edge.reading(x);
         x.set(3, 0, 0);
         Due.is("49: as it was kept", x.back(), 1);
         Due.is("49: HEAPS", x.status(0), 1);
@@ -568,6 +571,7 @@ public final class Edges38to50Test {
         read(full, "ab".repeat(12));
         full.image();
         full.again();
+        read(full, "ba".repeat(12));
         for (int i = 0; i < 4; i++) {
             full.forget(0);
         }
