@@ -1,5 +1,9 @@
+import java.lang.reflect.Field;
+import java.lang.reflect.Modifier;
 import java.nio.file.Files;
 import java.nio.file.Path;
+import java.util.Map;
+import java.util.TreeMap;
 import java.util.regex.Matcher;
 import java.util.regex.Pattern;
 
@@ -28,6 +32,7 @@ public final class LanguageTest {
         Due.is("inner classes that aren't static", count(code, "(?<!static final |public final |static )class \\w+"), 0);
         Due.is("static fields that aren't final", count(code, "\\bstatic (?!final|abstract|\\w+(\\[\\])? \\w+\\()"), 0);
         methods(code);
+        fields();
         Due.end("LanguageTest");
     }
 
@@ -44,14 +49,49 @@ public final class LanguageTest {
     private static void methods(String code) {
         Matcher method = Pattern.compile(
                 "(?m)^( {4}| {8})(?:(?:public|private|static|final) )*[\\w\\[\\]]+(?: (\\w+))?\\(([^)]*)\\) \\{$").matcher(code);
+        Map<String, String> bodies = new TreeMap<>();
         int many = 0;
         while (method.find()) {
             many++;
             int end = code.indexOf("\n" + method.group(1) + "}", method.end());
-            int lines = code.substring(method.end(), end).split("\n").length;
+            String body = code.substring(method.end(), end);
+            bodies.put(method.group(2) == null ? "new" : method.group(2), body);
+            int lines = body.split("\n").length;
             Due.isTrue(method.group(2) + " has sixty lines at most: " + lines, lines <= 60);
             Due.isTrue(method.group(2) + " has seven parameters at most", method.group(3).split(",").length <= 7);
         }
         Due.isTrue("methods are found: " + many, many > 100);
+        Due.is("methods are told by their names", bodies.size(), many);
+        for (String name : bodies.keySet()) {
+            int deep = depth(bodies, name, 0);
+            Due.isTrue(name + " goes eight calls deep at most, itself the first: " + deep, deep <= 8);
+        }
+    }
+
+    /** How many calls stand open at most; more than eight also if a method calls itself by some way. */
+    private static int depth(Map<String, String> bodies, String name, int above) {
+        int below = 0;
+        Matcher call = Pattern.compile("(?<!new )\\b(\\w+)\\(").matcher(bodies.get(name));
+        while (above < 9 && call.find()) {
+            if (bodies.containsKey(call.group(1))) {
+                below = Math.max(below, depth(bodies, call.group(1), above + 1));
+            }
+        }
+        return below + 1;
+    }
+
+    private static void fields() {
+        fieldsOf(AlwaysAhead.class);
+        for (Class<?> inside : AlwaysAhead.class.getDeclaredClasses()) {
+            fieldsOf(inside);
+        }
+    }
+
+    private static void fieldsOf(Class<?> of) {
+        int many = 0;
+        for (Field field : of.getDeclaredFields()) {
+            many += Modifier.isStatic(field.getModifiers()) ? 0 : 1;
+        }
+        Due.isTrue(of + " has twenty fields at most: " + many, many <= 20);
     }
 }
